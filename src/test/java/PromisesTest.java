@@ -94,6 +94,15 @@ public final class PromisesTest {
         }
     }
 
+    /** Twelve lines of ten words of the letter 1. */
+    private static AbjadPoems fullPoem() {
+        AbjadPoems x = new AbjadPoems();
+        for (int line = 0; line < 12; line++) {
+            addLine(x, 1, 1, 1, 1, 1, 1, 1, 1, 1, 1);
+        }
+        return x;
+    }
+
     private static final int[] NO_WORDS = {0, -1, MIN, MAX, LONGEST + 1, 27, 54, 729, 746, 20439,
         wordOf(1, 0, 1), wordOf(5, 4, 3, 2, 1, 0), wordOf(1, 0, 3, 4, 5, 6), LONGEST - 26};
 
@@ -176,6 +185,7 @@ public final class PromisesTest {
         due("5: not as often", x.alike(wordOf(1, 1, 2), wordOf(1, 2, 2)), false);
         due("5: longer", x.alike(wordOf(1, 2), wordOf(1, 2, 2)), false);
         due("5: shorter", x.alike(wordOf(1, 2, 26), wordOf(2, 1)), false);
+        due("5: without the letter 1", x.alike(wordOf(1, 2), 2), false);
         due("5: last letter", x.alike(26, 25), false);
         due("5: first letter", x.alike(wordOf(1, 5), wordOf(5, 5)), false);
         for (int word : NO_WORDS) {
@@ -368,10 +378,7 @@ public final class PromisesTest {
         due("12: round pairs", y.told(6), 1);
         y.count(2);
         due("12: crooked pairs", y.told(6), 0);
-        AbjadPoems full = new AbjadPoems();
-        for (int line = 0; line < 12; line++) {
-            addLine(full, 1, 1, 1, 1, 1, 1, 1, 1, 1, 1);
-        }
+        AbjadPoems full = fullPoem();
         due("12: pairs of a full poem", full.told(6), 7140);
         due("12: words of a full poem", full.told(1), 120);
     }
@@ -383,6 +390,7 @@ public final class PromisesTest {
         dueIndex(x, "13: hidden without lines", () -> x.hidden(0, 1));
         addLine(x, 1, 2, 3, 30, 56);
         x.write();
+        due("13: the first word only", x.hidden(0, 1), 0);
         due("13: one word", x.hidden(0, 2), 11);
         due("13: the last word only", x.hidden(0, 8), 34);
         due("13: the first of several", x.hidden(0, 3), 1);
@@ -422,6 +430,9 @@ public final class PromisesTest {
         due("14: after a cut", x.hides(3), 4);
         x.count(2);
         due("14: crooked", x.hides(8), 2);
+        AbjadPoems full = fullPoem();
+        due("14: single words of a full poem", full.hides(1), 120);
+        due("14: full lines", full.hides(10), 12);
     }
 
     private static void lacks() {
