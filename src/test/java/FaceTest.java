@@ -38,7 +38,8 @@ public final class FaceTest {
     private static final String[] SECTIONS = {"// ---- letters and words", "public int count(",
         "// ---- the poem", "public int write(", "// ---- years", "public int hidden("};
     private static final String[] RULED_OUT = {"import ", "package ", "->", "::", "finally",
-        "catch", "synchronized", "assert", "Exact(", "protected ", "System.out", "@"};
+        "catch", "synchronized", "assert", "Exact(", "protected ", "System.", "@", "java.", "static {",
+        "equals(", "hashCode(", "toString(", "\" +", "+ \"", "Error", "Random", "Thread"};
     private static int wrong = 0;
 
     public static void main(String[] args) throws IOException {
@@ -67,6 +68,7 @@ public final class FaceTest {
         TreeSet<String> shown = new TreeSet<>();
         TreeSet<String> names = new TreeSet<>();
         for (Method method : AbjadPoems.class.getDeclaredMethods()) {
+            due(method + " takes at most seven parameters", method.getParameterCount() <= 7, true);
             if (!Modifier.isPrivate(method.getModifiers())) {
                 due(method + " is public alone", method.getModifiers(), Modifier.PUBLIC);
                 shown.add(faceOf(method));
@@ -79,12 +81,15 @@ public final class FaceTest {
                 due("a private method of a public one's name", method.getName(), "none");
             }
         }
+        int kept = 0;
         for (Field field : AbjadPoems.class.getDeclaredFields()) {
             int modifiers = field.getModifiers();
+            kept += Modifier.isStatic(modifiers) ? 0 : 1;
             due(field + " is private", Modifier.isPrivate(modifiers), true);
             due(field + " is no static state",
                 Modifier.isStatic(modifiers) && !Modifier.isFinal(modifiers), false);
         }
+        due("the class has some twenty fields beside its constants, at most", kept <= 20, true);
     }
 
     private static String faceOf(Method method) {
